@@ -89,6 +89,7 @@ public final class LotsTest {
             Due.same("drawn(1, " + i + ")", x.drawn(1, i), BEYOND);
         }
         Due.same("a draw changes nothing", x.drawn(1, 0), 2);
+        Due.same("seed 0 has x 12345, 0", x.drawn(0, 0), 0);
         Due.same("seed -3 has x 984433906, 15021, modulo 60 is 21", x.drawn(-3, 0), 1);
         Due.same("without sign: seed 2 has x -2087924461, 33676, modulo 60 is 16", x.drawn(2, 0), 1);
     }
@@ -103,6 +104,7 @@ public final class LotsTest {
             int seen = 0;
             for (int i = 0; i < 12; i++) {
                 int a = x.drawn(seed, i);
+                x.drawn(seed + 1, 0);
                 Due.same("turn of who is drawn", x.turn(seed, a), i);
                 seen |= 1 << a;
             }
@@ -110,6 +112,12 @@ public final class LotsTest {
         }
         for (int a : new int[] {-1, 12, MIN, MAX}) {
             Due.same("turn(1, " + a + ")", x.turn(1, a), BEYOND);
+        }
+        x = new CanyonRafts();
+        x.applicant(1);
+        x.applicant(1);
+        for (int seed = 0; seed < 50; seed++) {
+            Due.same("of two by weight 1 both are drawn", x.drawn(seed, 0) + x.drawn(seed, 1), 1);
         }
     }
 }

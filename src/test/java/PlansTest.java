@@ -16,6 +16,7 @@ public final class PlansTest {
         largeOnes();
         freeCamps();
         lyingOver();
+        fifteenDays();
         lyingOverAtLowestNumbers();
         lowestNumbers();
         theEnd();
@@ -106,6 +107,20 @@ public final class PlansTest {
         noPlan("the rapid is run on day 0, not on day 1", 0);
         x.launch(0, 1);
         planIs("with launch on day 1", 0, 0);
+        x = new CanyonRafts();
+        x.end(20);
+        x.camp(10, false);
+        x.camp(9, false);
+        x.camp(11, false);
+        x.rapid(11, 500, 500);
+        x.water(1, 1, 500);
+        x.trip(0, 0, 11, 2, 0);
+        planIs("a camp a mile ahead of the closed rapid", 0, 0);
+        x.trip(0, 0, 11, 2, 0);
+        x.night(1, 0, 0);
+        planIs("the other camp ahead of it, but not the one at it", 0, 1);
+        x.night(1, 0, 1);
+        planIs("the first again", 0, 0);
     }
 
     private static void rapidsOnTheWay() {
@@ -179,6 +194,29 @@ public final class PlansTest {
         planIs("never over from day 2 on", 0, 0);
         x.launch(0, 3);
         noPlan("from day 3 on", 0);
+        x.launch(0, 0);
+        planIs("twice over", 2, 0, 0, 0);
+        noPlan("never over, asked behind twice over", 0);
+    }
+
+    /** Fourteen camps, a mile each, and fifteen days: the most there can be. */
+    private static void fifteenDays() {
+        x = new CanyonRafts();
+        x.end(15);
+        int[] camps = new int[14];
+        for (int c = 0; c < 14; c++) {
+            x.camp(14 - c, false);
+            camps[c] = 13 - c;
+        }
+        x.trip(0, 15, 1, 15, 2);
+        planIs("fifteen days to day 29", 0, camps);
+        Due.same("fourteen nights", x.take(0), 14);
+        Due.same("the last night", x.at(0, 28), 0);
+        x.launch(0, 16);
+        noPlan("it would end on day 30", 0);
+        x.launch(0, 0);
+        x.end(16);
+        noPlan("it would take sixteen days", 0);
     }
 
     /** It may wait at either camp: the lower number told first decides, also against going on. */
@@ -236,6 +274,13 @@ public final class PlansTest {
         x.end(10);
         x.camp(10, false);
         planIs("the end at a camp's mile", 0);
+        x = new CanyonRafts();
+        x.end(250);
+        for (int mile = 49; mile < 250; mile += 50) {
+            x.camp(mile, false);
+        }
+        x.trip(0, 0, 50, 9, 2);
+        planIs("the last mile of all", 0, 0, 1, 2, 3, 4);
     }
 
     private static void take() {
@@ -298,6 +343,19 @@ public final class PlansTest {
         Due.same("fill(3)", x.fill(3), 1);
         Due.same("trip 0 is there now", x.who(0, 0), 0);
         Due.same("trip 1 has no nights", x.of(1, 5), 0);
+        x.trip(0, 0, 9, 2, 0);
+        x.trip(0, 0, 10, 2, 0);
+        x.launch(0, 9);
+        x.night(2, 0, 0);
+        Due.same("trip 2 gets no plan, trip 3 the camp", x.fill(12), 1);
+        Due.same("trip 3 is there", x.who(0, 0), 3);
+        Due.same("trip 2 has no nights", x.of(2, 5), 0);
+        x.end(30);
+        x.night(0, 7, 0);
+        Due.same("none gets a plan", x.fill(15), 0);
+        for (int t = 0; t < 4; t++) {
+            Due.same("no nights of trip " + t, x.of(t, 5), 0);
+        }
     }
 
     private static void fill() {

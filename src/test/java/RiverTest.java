@@ -191,5 +191,20 @@ public final class RiverTest {
         }
         x.undo();
         Due.same("water of day 0 back", x.runs(1, 1, 0), -1);
+        runsAtTheLastHour();
+    }
+
+    private static void runsAtTheLastHour() {
+        x = new CanyonRafts();
+        x.speed(1);
+        x.water(1, 2, 170);
+        x.rapid(5, 150, 200);
+        x.rapid(6, 150, 200);
+        Due.same("hour 12 comes in hour 17", x.runs(0, 1, 0), 17);
+        Due.same("hour 12 comes in hour 18", x.runs(1, 1, 0), -1);
+        x.water(1, 0, 180);
+        Due.same("hours 0 to 5 come in hours 5 to 10", x.runs(0, 1, 0), 8);
+        x.rapid(2, 150, 200);
+        Due.same("hours 0 to 5 come in hours 2 to 7", x.runs(2, 1, 0), 14);
     }
 }

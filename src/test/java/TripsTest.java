@@ -207,6 +207,9 @@ public final class TripsTest {
             Due.same("downstream", x.hurt(kind, 0), 1200);
             Due.same("upstream", x.hurt(kind, 250), 150 * up[kind]);
         }
+        Due.same("a mile downstream", x.hurt(0, 99), 12);
+        Due.same("a mile upstream", x.hurt(0, 101), 60);
+        Due.same("a mile upstream by motor", x.hurt(1, 101), 20);
         x.landing(124);
         Due.same("4 up or 20 down, both 240", x.hurt(0, 104), 240);
         Due.same("5 up or 19 down", x.hurt(0, 105), 228);
