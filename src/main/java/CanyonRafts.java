@@ -271,11 +271,9 @@ public final class CanyonRafts {
         if (!isTrip(trip) || !isMile(mile)) {
             return finding(BEYOND);
         }
-        if (river.counts[River.LANDINGS] == 0) {
-            return finding(NONE);
-        }
         int kind = trips.read(trip, Trips.KIND_OF);
-        return river.minutesOut(mile, kind == MOTOR || kind == GUIDED);
+        int minutes = river.minutesOut(mile, kind == MOTOR || kind == GUIDED);
+        return minutes == River.NO_WAY_OUT ? finding(NONE) : minutes;
     }
 
     // ---- lots
@@ -506,6 +504,8 @@ public final class CanyonRafts {
         static final int MINUTES_DOWN = 12;
         static final int MINUTES_UP = 60;
         static final int MOTOR_MINUTES_UP = 20;
+        /** More minutes than any way out takes. */
+        static final int NO_WAY_OUT = LAST_MILE * MINUTES_UP + 1;
 
         // Indices into bounds, and into counts.
         static final int END = 0;
@@ -604,12 +604,15 @@ public final class CanyonRafts {
             return bounds[END] <= mile + pace && bounds[END] <= nextClosed(mile, closed);
         }
 
+        /** No trip comes to a landing at or behind the end, so such a one is no way out. */
         int minutesOut(int mile, boolean motor) {
             int minutesUp = motor ? MOTOR_MINUTES_UP : MINUTES_UP;
-            int fewest = LAST_MILE * MINUTES_UP;
+            int fewest = NO_WAY_OUT;
             for (int i = 0; i < counts[LANDINGS]; i++) {
-                int down = landingMile[i] - mile;
-                fewest = Math.min(fewest, down >= 0 ? down * MINUTES_DOWN : -down * minutesUp);
+                if (landingMile[i] < bounds[END]) {
+                    int down = landingMile[i] - mile;
+                    fewest = Math.min(fewest, down >= 0 ? down * MINUTES_DOWN : -down * minutesUp);
+                }
             }
             return fewest;
         }

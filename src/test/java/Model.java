@@ -358,8 +358,8 @@ final class Model {
     private int hurt(int trip, int mile) {
         if (noTrip(trip) || out(mile, 0, 250)) return Due.BEYOND;
         int up = now.trips.get(trip).kind % 2 == 1 ? 20 : 60;
-        return now.landings.stream().mapToInt(m -> m >= mile ? 12 * (m - mile) : up * (mile - m)).min()
-                .orElse(Due.NONE);
+        return now.landings.stream().filter(m -> m < now.end)
+                .mapToInt(m -> m >= mile ? 12 * (m - mile) : up * (mile - m)).min().orElse(Due.NONE);
     }
 
     private boolean noApplicant(int applicant) {

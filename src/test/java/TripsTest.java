@@ -16,6 +16,7 @@ public final class TripsTest {
         who();
         near();
         hurt();
+        hurtNearTheEnd();
         Due.close();
     }
 
@@ -219,5 +220,32 @@ public final class TripsTest {
         }
         x.undo();
         Due.same("one landing again", x.hurt(0, 105), 300);
+    }
+
+    /** No trip comes to a landing at or behind the end, so hurt counts only those ahead of it. */
+    private static void hurtNearTheEnd() {
+        x = new CanyonRafts();
+        x.trip(0, 0, 1, 1, 0);
+        x.landing(200);
+        x.landing(250);
+        Due.same("landings at and behind the first end", x.hurt(0, 199), Due.NONE);
+        Due.same("no mile goes first", x.hurt(0, 251), BEYOND);
+        Due.same("hurt at such a landing itself", x.hurt(0, 250), Due.NONE);
+        Due.same("the landings are there", x.all(2), 2);
+        Due.same("a finding each", x.all(5), 3);
+        x.end(201);
+        Due.same("the end a mile behind a landing", x.hurt(0, 199), 12);
+        Due.same("the other one is still behind the end", x.hurt(0, 250), 3000);
+        x.end(250);
+        Due.same("a landing at the last mile is never ahead of the end", x.hurt(0, 249), 49 * 60);
+        x.landing(0);
+        x.end(1);
+        Due.same("a landing where the river begins", x.hurt(0, 200), 200 * 60);
+        x.undo();
+        Due.same("the end is undone", x.hurt(0, 200), 0);
+        x.undo();
+        x.undo();
+        x.undo();
+        Due.same("all ends are undone", x.hurt(0, 199), Due.NONE);
     }
 }
