@@ -2,6 +2,22 @@
 final class Desk {
     private final CanyonRafts x = new CanyonRafts();
 
+    /** A call whose answer does not matter; answers the desk itself, so that one can stand behind another. */
+    Desk then(String name, int... a) {
+        call(name, a);
+        return this;
+    }
+
+    /** A call told in words: its name, then its arguments. */
+    int say(String told) {
+        String[] words = told.split(" ");
+        int[] a = new int[words.length - 1];
+        for (int i = 0; i < a.length; i++) {
+            a[i] = Integer.parseInt(words[i + 1]);
+        }
+        return call(words[0], a);
+    }
+
     int call(String name, int... a) {
         switch (name) {
             case "end": return x.end(a[0]);

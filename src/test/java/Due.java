@@ -10,8 +10,14 @@ final class Due {
 
     private static int passed = 0;
     private static int failed = 0;
+    private static String test = "";
 
     private Due() {
+    }
+
+    /** What is told from here on belongs to a test with a name. */
+    static void begin(String name) {
+        test = name + ": ";
     }
 
     static void same(String what, long got, long want) {
@@ -19,7 +25,7 @@ final class Due {
             passed++;
         } else {
             failed++;
-            System.out.println(what + " answered " + got + ", due is " + want);
+            System.out.println(test + what + " answered " + got + ", due is " + want);
         }
     }
 
@@ -37,6 +43,10 @@ final class Due {
 
     static void yes(String what, boolean holds) {
         same(what, holds ? 1 : 0, 1);
+    }
+
+    static int passed() {
+        return passed;
     }
 
     static void close() {
