@@ -22,6 +22,8 @@ public final class LanguageTest {
             + "copy(int,int,int,int,int) let(int,int) undo() all(int)";
     private static final String FORBIDDEN = "\\b(throw|throws|try|catch|synchronized|assert|volatile|transient|native"
             + "|protected|package|System\\.(?!arraycopy)\\w+|Thread|Random|toString|hashCode|equals|\\w+Exact)\\b|->|::";
+    private static final Set<Class<?>> CONSTANTS = Set.of(int.class, long.class, boolean.class, char.class,
+            String.class, int[].class, long[].class, char[].class, byte[].class);
     private static final Set<String> LIBRARY = Set.of("Math.max", "Math.min", "Math.abs", "System.arraycopy",
             "Arrays.fill");
 
@@ -65,6 +67,7 @@ public final class LanguageTest {
                 && makers[0].getParameterCount() == 0);
         for (Field f : CanyonRafts.class.getDeclaredFields()) {
             Due.yes(f.getName() + " is private", Modifier.isPrivate(f.getModifiers()));
+            constant(f);
         }
         Due.yes("public and final", Modifier.isPublic(CanyonRafts.class.getModifiers())
                 && Modifier.isFinal(CanyonRafts.class.getModifiers()));
@@ -78,15 +81,21 @@ public final class LanguageTest {
                     Modifier.isStatic(c.getModifiers()) && !Modifier.isPublic(c.getModifiers()));
             int fields = 0;
             for (Field f : c.getDeclaredFields()) {
-                boolean constant = Modifier.isStatic(f.getModifiers());
-                Due.yes(f + " is final, if static", !constant || Modifier.isFinal(f.getModifiers()));
-                fields += constant ? 0 : 1;
+                constant(f);
+                fields += Modifier.isStatic(f.getModifiers()) ? 0 : 1;
             }
             Due.yes(c.getName() + " has at most twenty fields", fields <= 20);
             for (Method m : c.getDeclaredMethods()) {
                 Due.yes(m + " has at most seven parameters", m.getParameterCount() <= 7);
                 Due.yes(m + " has a name of its own", !FACE.matches("(.* )?" + m.getName() + "\\(.*"));
             }
+        }
+    }
+
+    /** Rule 5: what is static is final, and of a type that a constant may have. */
+    private static void constant(Field f) {
+        if (Modifier.isStatic(f.getModifiers())) {
+            Due.yes(f + " is a constant", Modifier.isFinal(f.getModifiers()) && CONSTANTS.contains(f.getType()));
         }
     }
 
